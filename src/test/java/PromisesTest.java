@@ -404,6 +404,10 @@ public final class PromisesTest {
         due.is("23 letters", letters.pull(0, 14), 1);
         due.is("24 letters", letters.pull(0, 12), 1);
         reads(letters, 0, "xabcdefghjkl" + "zzzzzzzzzzzz");
+        PatchHouse behind = begun("abcdefghijkl");
+        puts(behind, 0, 11, 12);
+        puts(behind, 1, 2, 0);
+        due.is("24 letters, what does not come does not count", behind.pull(0, 11), 1);
     }
 
     // ---- promise 8: the lots of seed 1 are 16807, 282475249, 1622650073, 984943658, 1144108930,
@@ -420,12 +424,20 @@ public final class PromisesTest {
         reads(x, 1, "k");
         due.is("undone as one", x.undo(), 0);
         x.anew();
+        due.is("drift three, two of them with nothing to take", x.drift(3, 1), 1);
+        reads(x, 1, "k");
+        x.anew();
         due.is("drift four, two of them with nothing to take", x.drift(4, 1), 2);
         reads(x, 0, "");
         reads(x, 1, "xk");
         due.is("one to be undone", x.told(3), 1);
         due.is("undone", x.undo(), 0);
         reads(x, 1, "");
+        PatchHouse takes = begun("abcde");
+        due.is("drift two", takes.drift(2, 1), 2);
+        reads(takes, 0, "abcd");
+        reads(takes, 1, "abcdek");
+        stands(takes, 0, "1-4");
         PatchHouse full = new PatchHouse();
         puts(full, 0, 12, 0);
         puts(full, 1, 12, 0);
@@ -542,6 +554,11 @@ public final class PromisesTest {
         y.takeOff(1, 0);
         due.is("six again", y.house(1, 4), 720);
         due.is("asked, nothing changes", y.history(1, 0, 0), 1);
+        PatchHouse free = begun("abcd");
+        free.record(0, 0, 4, 'x');
+        free.record(0, 1, 0, 0);
+        free.record(0, 1, 3, 0);
+        due.is("0 1 2, 1 0 2, 0 2 1", free.house(0, 4), 3);
         PatchHouse z = new PatchHouse();
         z.record(0, 0, 0, 'a');
         z.record(0, 1, 0, 'a');
