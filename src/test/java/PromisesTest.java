@@ -51,27 +51,14 @@ public final class PromisesTest {
         return x;
     }
 
-    private static String read(PatchHouse x, int house) {
-        StringBuilder all = new StringBuilder();
-        for (int i = 0; i < 40 && x.text(house, i) != NONE; i++) {
-            all.append((char) x.text(house, i));
-        }
-        return all.toString();
-    }
-
     private static void reads(PatchHouse x, int house, String want) {
-        String got = read(x, house);
+        String got = Sight.text(x, house);
         due.is("text of house " + house + " '" + got + "', due '" + want + "'", got.equals(want));
     }
 
-    /** A history as "number:sort@place", with blanks between. */
     private static void stands(PatchHouse x, int house, String want) {
-        StringBuilder all = new StringBuilder();
-        for (int i = 0; i < x.house(house, 1); i++) {
-            all.append(i == 0 ? "" : " ").append(x.history(house, i, 0)).append(x.history(house, i, 1) == 0 ? "+" : "-")
-                .append(x.history(house, i, 2));
-        }
-        due.is("history of house " + house + " '" + all + "', due '" + want + "'", all.toString().equals(want));
+        String got = Sight.history(x, house);
+        due.is("history of house " + house + " '" + got + "', due '" + want + "'", got.equals(want));
     }
 
     private static void puts(PatchHouse x, int house, int times, int place) {
