@@ -19,6 +19,7 @@ public final class ToldEdgesTest {
         houseSets();
         houseLawfulUpToSix();
         houseLawfulOfAHistoryThatNeeds();
+        houseLawfulOfManyThenOfFew();
         houseHeld();
         textOfAHouse();
         textALetter();
@@ -223,6 +224,18 @@ public final class ToldEdgesTest {
         String ahead = Sight.all(two);
         two.house(1, 4);
         edge.same("asked, nothing changes", Sight.all(two), ahead);
+    }
+
+    private static void houseLawfulOfManyThenOfFew() {
+        PatchHouse x = Edge.begun("ab");
+        Edge.puts(x, 0, 6, 0);
+        Edge.chain(x, 1, 2);
+        for (int k = 0; k < 3; k++) {
+            edge.answers("of many", x.house(0, 4), 720);
+            edge.answers("then of few", x.house(1, 4), 1);
+        }
+        x.record(1, 0, 2, 'y');
+        edge.answers("and of one more", x.house(1, 4), 3);
     }
 
     private static void houseHeld() {
