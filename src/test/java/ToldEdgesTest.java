@@ -229,13 +229,14 @@ public final class ToldEdgesTest {
     private static void houseLawfulOfManyThenOfFew() {
         PatchHouse x = Edge.begun("ab");
         Edge.puts(x, 0, 6, 0);
-        Edge.chain(x, 1, 2);
+        Edge.chain(x, 1, 3);
         for (int k = 0; k < 3; k++) {
             edge.answers("of many", x.house(0, 4), 720);
             edge.answers("then of few", x.house(1, 4), 1);
         }
-        x.record(1, 0, 2, 'y');
-        edge.answers("and of one more", x.house(1, 4), 3);
+        x.record(1, 0, 3, 'y');
+        edge.answers("of many", x.house(0, 4), 720);
+        edge.answers("then of one more, that is free", x.house(1, 4), 4);
     }
 
     private static void houseHeld() {
